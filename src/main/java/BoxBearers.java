@@ -1349,7 +1349,7 @@ public final class BoxBearers {
             int often = 0;
             for (int i = 0; i < many; i++) {
                 passDay();
-                often += Integer.bitCount(carried);
+                often += carried;
             }
             return often;
         }
@@ -1442,7 +1442,7 @@ public final class BoxBearers {
                     tireOut(bearer);
                 }
             }
-            carried |= 1 << box;
+            carried++;
         }
 
         private void tireOut(int bearer) {

@@ -227,6 +227,15 @@ public final class PromisesTest {
         faultOf("talk ((((((;", 1, 11);
         faultOf("talk (((((()", 1, 11);
         faultOf("falls 1", 1, 7);
+        faultOf("rox 1 0;", 1, 0);
+        faultOf("boy 1 0;", 1, 0);
+        BoxBearers cut = new BoxBearers();
+        feedText(cut, "towns 35;");
+        due("a number that is cut off", cut.land(7), 1);
+        due("its end", cut.fault(), 7);
+        feedText(cut, "talk town+towns;");
+        due("a word that is cut off", cut.land(14), 1);
+        due("its end", cut.fault(), 14);
         due("words and numbers side by side", tell(new BoxBearers(), "towns3;box5 0 1;bearer5 5under0;talk\n1or2;"), 0);
     }
 
@@ -270,6 +279,8 @@ public final class PromisesTest {
     private static void unknownOnes() {
         faultOf("talk x;", 3, 5);
         faultOf("talk towns;", 3, 5);
+        faultOf("talk z;", 3, 5);
+        faultOf("talk a;", 3, 5);
         faultOf("talk and;", 3, 5);
         faultOf("talk 1+not 2;", 3, 7);
         faultOf("talk 1<not 2;", 3, 7);
@@ -355,6 +366,9 @@ public final class PromisesTest {
         due("no load", x.bearer(2, 5), 0);
         x.praise(0, 1);
         due("cut down", x.bearer(1, 5), 10);
+        x.away(1);
+        due("alone", x.bearer(0, 5), 21);
+        x.hand(1, 0);
         x.slander(0, 20);
         x.days(6);
         due("tired", x.bearer(1, 3), 6);
@@ -457,6 +471,8 @@ public final class PromisesTest {
 
     private static void slander() {
         BoxBearers x = told(TRIO);
+        due("1 less", x.slander(0, 1), 19);
+        x.undo();
         due("less", x.slander(1, 29), 1);
         due("at least 1", x.slander(1, 30), 1);
         due("an act all the same", x.count(9), 2);
@@ -468,6 +484,7 @@ public final class PromisesTest {
 
     private static void praise() {
         BoxBearers x = told(TRIO);
+        due("1 more", x.praise(1, 1), 31);
         due("more", x.praise(0, 30), 50);
         due("still more", x.praise(0, 30), 80);
         due("99 at most", x.praise(0, 30), 99);
@@ -530,6 +547,7 @@ public final class PromisesTest {
 
     private static void who() {
         BoxBearers x = told("box 10 0;bearer 20 9 under 0;bearer 20 1 under 0;talk 0;falls day=1;");
+        due("now", x.who(0, 0, 0), 0);
         due("tired", x.who(0, 1, 0), 1);
         due("under", x.who(0, 1, 1), 0);
         due("let fall", x.who(0, 2, 1), -1);
@@ -568,6 +586,15 @@ public final class PromisesTest {
         due("behind 2", x.meet(0, 1), 2);
         due("like the other way round", x.meet(1, 0), 2);
         due("now", x.meet(1, 2), 0);
+        BoxBearers y = told("box 9 0 1;box 5 1;bearer 40 1 under 0;talk 10*(day=0)-20*(day=39);");
+        y.away(0);
+        y.praise(0, 30);
+        y.praise(0, 1);
+        y.hand(0, 0);
+        // It weighs 49, too much for 40, until it is 40 on the 40th day.
+        due("behind 40", y.meet(0, 1), 40);
+        y.praise(0, 1);
+        due("not within 40", y.meet(0, 1), -1);
         due("both are one", x.meet(1, 1), -1);
         due("never", told(TRIO).meet(0, 1), -1);
         dueThrow("no box", () -> x.meet(3, 0), NO_SUCH);
@@ -640,6 +667,7 @@ public final class PromisesTest {
         due("nobody", x.toSlander(1), -1);
         x.praise(0, 30);
         due("25 less", x.toSlander(0), 25);
+        due("to 1", told("box 99 0;bearer 1 1 under 0;").toSlander(0), 98);
         BoxBearers y = told("box 1 0;bearer 2 1 under 0;talk 0;");
         y.days(1);
         due("no might left", y.toSlander(0), -1);
@@ -713,6 +741,14 @@ public final class PromisesTest {
         due("two boxes at once can't be", x.weighed(0), 0);
         due("none", x.weighed(1), -1);
         x.forget();
+        x.see(0, 0, 99);
+        due("the highest one", x.weighed(1), 99);
+        x.forget();
+        x.see(0, 0, 19);
+        x.see(0, 0, 18);
+        due("it can't be both", x.weighed(0), 0);
+        due("none", x.weighed(1), -1);
+        x.forget();
         x.see(0, 0, 20);
         due("so without", x.weighed(2), 1);
         due("the weight that it has doesn't count", x.weighed(0), 98);
@@ -779,6 +815,12 @@ public final class PromisesTest {
         due("tired 5: both go", y.game(0, 1, 0), 1);
         due("both", y.game(1, 0, 1), 11);
         due("both idle", y.game(2, 3, 0), -1);
+        BoxBearers w = told("box 60 0;bearer 40 1 under 0;bearer 40 1 under 0;talk 0;");
+        w.days(4);
+        due("tired 4: staying gains as much as going", w.game(0, 1, 0), 2);
+        due("neither goes", w.game(0, 1, 1), 0);
+        w.days(1);
+        due("tired 5: going gains more", w.game(0, 1, 1), 11);
         BoxBearers z = told("box 60 0;bearer 40 1 under 0;bearer 26 1 under 0;bearer 40 9;talk 0;");
         z.days(1);
         z.away(1);
@@ -796,20 +838,9 @@ public final class PromisesTest {
         due("none fell", x.years(5, 0, 0), 0);
         due("weight", x.years(5, 0, 1), 50);
         due("borne", x.years(5, 0, 2), 1);
-        // Seed 0 becomes 12345, of which the bits 16 to 30 are 0: a hand is put under.
-        int seed = 0;
-        int[] drawn = new int[3];
-        int[] of = {6, 3, 2};
-        for (int i = 0; i < 3; i++) {
-            seed = seed * 1103515245 + 12345;
-            drawn[i] = (seed >>> 16 & 0x7fff) % of[i];
+        for (int seed = -3; seed < 60; seed++) {
+            replayYears(seed * 7654321, seed % 2 == 0 ? 12 : 40);
         }
-        due("the first draw of seed 0", drawn[0], 0);
-        BoxBearers y = told(TRIO);
-        y.hand(drawn[1], drawn[2]);
-        y.days(1);
-        due("a hand and a day", x.years(0, 1, 1), y.count(7));
-        due("borne then", x.years(0, 1, 2), Integer.bitCount(y.count(5)));
         BoxBearers z = told("box 10 0;falls 1;");
         due("each day, without bearers", z.years(7, 40, 0), 40);
         due("at least 1", z.years(7, 40, 1), 1);
@@ -818,6 +849,42 @@ public final class PromisesTest {
         dueThrow("no what", () -> x.years(0, 41, 3), NO_SUCH);
         dueThrow("41 days", () -> x.years(0, 41, 0), ILLEGAL);
         dueThrow("-1 days", () -> x.years(0, -1, 0), ILLEGAL);
+    }
+
+    private static int seed = 0;
+
+    private static int draw(int of) {
+        seed = seed * 1103515245 + 12345;
+        return (seed >>> 16 & 0x7fff) % of;
+    }
+
+    /** The same days by acts of another object. */
+    private static void replayYears(int from, int n) {
+        String text = TRIO + "bearer 20 6 under 1;falls lean*hands<weight-40 or 4<lean;";
+        BoxBearers x = told(text);
+        BoxBearers y = told(text);
+        seed = from;
+        int falls = 0;
+        for (int day = 0; day < n; day++) {
+            int kind = draw(6);
+            if (kind == 0) {
+                int bearer = draw(4);
+                y.hand(bearer, draw(2));
+            } else if (kind == 1) {
+                y.away(draw(4));
+            } else if (kind == 2) {
+                int box = draw(2);
+                y.slander(box, draw(10) + 1);
+            } else if (kind == 3) {
+                int box = draw(2);
+                y.praise(box, draw(10) + 1);
+            }
+            falls += (y.fallen(0) == 1 ? 1 : 0) + (y.fallen(1) == 1 ? 1 : 0);
+            y.days(1);
+        }
+        due("falls by " + from, x.years(from, n, 0), falls);
+        due("weight by " + from, x.years(from, n, 1), y.count(7));
+        due("borne by " + from, x.years(from, n, 2), Integer.bitCount(y.count(5)));
     }
 
     private static void idle() {

@@ -1,76 +1,5 @@
-import java.util.NoSuchElementException;
-
 /** For each promise of the document some calls with the answers that are due, worked out by hand. */
-public final class PromisesTest {
-    private static final String TRIO = "towns 3;road 0 1 2;road 1 2 5;road 0 2 9;box 20 0 1;box 30 2;"
-        + "bearer 15 5 under 0;bearer 10 7 under 0;bearer 40 1;";
-    private static final int NO_SUCH = -1001;
-    private static final int ILLEGAL = -1002;
-
-    private static int wrong = 0;
-    private static int promise = 0;
-
-    interface Call {
-        int answer();
-    }
-
-    private static void due(String what, int got, int want) {
-        if (got != want) {
-            wrong++;
-            System.out.println("promise " + promise + ": " + what + " answered " + got + ", due is " + want);
-        }
-    }
-
-    private static void due(String what, boolean got, boolean want) {
-        due(what, got ? 1 : 0, want ? 1 : 0);
-    }
-
-    private static void dueThrow(String what, Call call, int want) {
-        int got;
-        try {
-            got = call.answer();
-        } catch (NoSuchElementException e) {
-            got = e.getClass() == NoSuchElementException.class ? NO_SUCH : -1003;
-        } catch (IllegalArgumentException e) {
-            got = e.getClass() == IllegalArgumentException.class ? ILLEGAL : -1003;
-        }
-        due(what, got, want);
-    }
-
-    private static void feedText(BoxBearers x, String text) {
-        for (int from = 0; from < text.length(); from += 20) {
-            int[] f = new int[5];
-            for (int i = 0; i < 20; i++) {
-                int sign = from + i < text.length() ? text.charAt(from + i) : 32;
-                f[i / 4] = f[i / 4] << 8 | sign;
-            }
-            x.feed(f[0], f[1], f[2], f[3], f[4]);
-        }
-    }
-
-    private static int tell(BoxBearers x, String text) {
-        feedText(x, text);
-        return x.land(text.length());
-    }
-
-    private static BoxBearers told(String text) {
-        BoxBearers x = new BoxBearers();
-        due("land '" + text + "'", tell(x, text), 0);
-        return x;
-    }
-
-    private static void faultOf(String text, int code, int place) {
-        BoxBearers x = new BoxBearers();
-        due("land '" + text + "'", tell(x, text), code);
-        due("fault of '" + text + "'", x.fault(), place);
-    }
-
-    /** What a rule gives now, seen by a box of weight 50, which talk makes more by -9 to 9. */
-    private static void gives(String expr, int want) {
-        BoxBearers x = told("towns 8;box 50 6 2;bearer 30 4 under 0;bearer 25 7 under 0;talk " + expr + ";falls 0;");
-        due("talk " + expr, x.then(0, 1, 0) - 50, want);
-    }
-
+public final class PromisesTest extends Checks {
     private static void newObject() {
         BoxBearers x = new BoxBearers();
         int[] want = {4, 0, 0, 0, 0, 0, 0, 0, 0, 0, 0, 0, 0, 0, 0};
@@ -1026,11 +955,6 @@ public final class PromisesTest {
         due("the day", x.count(4), 0);
     }
 
-    private static void run(int number, Runnable test) {
-        promise = number;
-        test.run();
-    }
-
     public static void main(String[] args) {
         Runnable[] tests = {PromisesTest::newObject, PromisesTest::feed, PromisesTest::land, PromisesTest::fault,
             PromisesTest::count, PromisesTest::box, PromisesTest::bearer, PromisesTest::days, PromisesTest::hand,
@@ -1042,12 +966,9 @@ public final class PromisesTest {
             PromisesTest::nearest, PromisesTest::ahead, PromisesTest::alone, PromisesTest::weariest, PromisesTest::onRoutes,
             PromisesTest::reach, PromisesTest::total, PromisesTest::image, PromisesTest::restore};
         for (int i = 0; i < tests.length; i++) {
-            run(i + 1, tests[i]);
+            sentence("Promise " + (i + 1) + ":", tests[i]);
         }
-        run(3, PromisesTest::rules);
-        System.out.println(wrong == 0 ? "PromisesTest: all answers are as due" : wrong + " answers are not as due");
-        if (wrong != 0) {
-            System.exit(1);
-        }
+        sentence("Promise 3:", PromisesTest::rules);
+        end("PromisesTest", args);
     }
 }

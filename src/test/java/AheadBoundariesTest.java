@@ -117,6 +117,8 @@ public final class AheadBoundariesTest extends Checks {
         due("just enough", told("box 20 0;box 20 0;bearer 20 1;bearer 20 1;").toBear(-1), 2);
         due("one is too weak by 1", told("box 20 0;box 20 0;bearer 20 1;bearer 19 1;").toBear(-1), NONE);
         due("none for the first one either", told("box 20 0;box 20 0;bearer 20 1;bearer 19 1;").toBear(0), NONE);
+        due("all under one", told("box 20 0;bearer 10 1;bearer 10 1;").toBear(-1), 2);
+        due("all under one, as bits", told("box 20 0;bearer 10 1;bearer 10 1;").toBear(0), 3);
         due("no one under two", told("box 1 0;box 1 0;bearer 40 1;").toBear(-1), NONE);
         due("whoever is under which", told("box 20 0;bearer 9 1 under 0;bearer 20 1;").toBear(0), 2);
         due("no boxes", told("bearer 1 1;").toBear(-1), 0);
@@ -148,6 +150,10 @@ public final class AheadBoundariesTest extends Checks {
 
     private static void crew() {
         due("least lean ahead of the fewest", told("box 20 0;bearer 15 1;bearer 15 9;bearer 5 1;bearer 5 9;").crew(0), 5);
+        due("no lean of six rather than 1 of two",
+            told("box 24 0;" + "bearer 4 1;".repeat(6) + "bearer 12 3;bearer 12 4;").crew(0), 63);
+        due("a lean of 1 of six rather than 2 of two",
+            told("box 24 0;" + "bearer 4 1;".repeat(5) + "bearer 4 2;bearer 12 7;bearer 12 9;").crew(0), 63);
         due("one has no lean", told("box 20 0;bearer 10 1;bearer 10 1;bearer 20 9;").crew(0), 4);
         due("fewest ahead of least bits", told("box 20 0;bearer 7 1;bearer 7 1;bearer 7 1;bearer 10 1;bearer 10 1;").crew(0), 24);
         due("least bits", told("box 20 0;bearer 9 1;bearer 20 3;bearer 20 1;").crew(0), 2);

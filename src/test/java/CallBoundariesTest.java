@@ -1,5 +1,9 @@
 /** The boundary cases of the document's promises 1 to 43: what each call refuses or throws, in which order, and what stays. */
 public final class CallBoundariesTest extends Checks {
+    private static final String FULL = "towns 8;road 0 1 9;road 0 2 9;road 0 3 9;road 0 4 9;road 0 5 9;road 0 6 9;road 0 7 9;"
+        + "road 1 2 9;road 1 3 9;road 1 4 9;road 1 5 9;road 1 6 9;road 1 7 9;road 2 3 9;"
+        + "box 99 0 1 2 3 4 5;".repeat(6) + "bearer 40 9 under 5;".repeat(6) + "bearer 40 9;".repeat(2);
+
     private static int statusOf(BoxBearers x) {
         return x.count(12) * 10000 + x.count(13) * 100 + x.count(14);
     }
@@ -91,6 +95,32 @@ public final class CallBoundariesTest extends Checks {
         due("by 1 more, and lean", x.then(0, 1, 0), 5);
     }
 
+    /** Nothing of a land that was full is left in one that has little, nor of a text with a fault. */
+    private static void littleBehindMuch() {
+        String much = FULL + "talk weight+9;falls not weight;";
+        String[] little = {"", "box 20 0;bearer 10 1;bearer 10 1;", "box 20 1 0;bearer 12 2;talk 0-3;falls hands=0;",
+            "towns 2;road 0 1 1;", "road 0 1 1;road 0 2 3;box 7 2 3;box 3 3;bearer 9 9 under 1;bearer 12 9 under 0;",
+            "bearer 1 9;", "box 9 3;falls weight<4;", "box 9 0;box 12 1;bearer 12 1;bearer 20 3;bearer 9 1;bearer 9 1;talk 2;"};
+        for (String text : little) {
+            String fresh = answersOf(told(text));
+            BoxBearers x = told(much);
+            x.toBear(NONE);
+            x.look(0);
+            x.days(2);
+            due("land '" + text + "' behind much", tell(x, text), 0);
+            due("like a fresh one: " + text, answersOf(x).equals(fresh), true);
+            BoxBearers y = told("");
+            tell(y, much + "x");
+            due("land '" + text + "' behind a fault", tell(y, text), 0);
+            due("like one without a fault: " + text, answersOf(y).equals(fresh), true);
+        }
+        BoxBearers z = told("box 50 0;talk 2;falls 0;");
+        tell(z, "box 50 0;talk 9;talk 9;");
+        due("land", tell(z, "box 50 0;falls day=2;talk 3;"), 0);
+        due("its own talk", z.then(0, 1, 0), 53);
+        due("its own falls", z.fallen(0), 3);
+    }
+
     private static void landWithFault() {
         BoxBearers x = told(TRIO + "talk 2;falls day=5;");
         x.days(2);
@@ -151,6 +181,27 @@ public final class CallBoundariesTest extends Checks {
         due("14 is the last", x.count(14), 0);
         due("0 is the first", x.count(0), 3);
         due("borne as bits", told("box 1 0;box 9 0;bearer 9 1 under 1;").count(5), 2);
+    }
+
+    /** As many of all as there can be: no question goes beyond the last one. */
+    private static void fullCounts() {
+        BoxBearers x = told(FULL);
+        for (int i = 0; i < 8; i++) {
+            x.see(5, 0, 99);
+        }
+        for (int i = 0; i < 5; i++) {
+            x.praise(0, 1);
+        }
+        int[] want = {8, 14, 6, 8, 0, 32, 192, 594, 28, 5, 8, 0, 0, 0, 0};
+        for (int what = 0; what < want.length; what++) {
+            due("count " + what, x.count(what), want[what]);
+        }
+        due("all questions of many", answersOf(x).length() > 0, true);
+        due("all wet", told(FULL).rain(5, 5, 10), 100000);
+        due("all wet, and the first one isn't borne", told(FULL).rain(0, 5, 10), 0);
+        due("crew", told(FULL).crew(0), 7);
+        due("not all can be borne", told(FULL).toBear(NONE), NONE);
+        due("most load", told(FULL).bearer(5, 5), 16);
     }
 
     private static void box() {
@@ -290,14 +341,16 @@ public final class CallBoundariesTest extends Checks {
         due("under none", x.who(2, 40, 1), NONE);
     }
 
-    private static void oneBox() {
+    private static void fallen() {
         BoxBearers x = told(TRIO);
-        noSuch("fallen", box -> x.fallen(box), 2);
-        noSuch("rests", box -> x.rests(box), 2);
-        noSuch("crew", box -> x.crew(box), 2);
-        noSuch("toSlander", box -> x.toSlander(box), 2);
-        noSuch("toWait", box -> x.toWait(box), 2);
-        noSuch("alone", box -> x.alone(box), 2);
+        due("none", x.fallen(1), NONE);
+        noSuch("box", box -> x.fallen(box), 2);
+    }
+
+    private static void rests() {
+        BoxBearers x = told("box 1 0;bearer 40 1 under 0;talk 0;");
+        due("none", x.rests(0), NONE);
+        noSuch("box", box -> x.rests(box), 1);
     }
 
     private static void meet() {
@@ -307,6 +360,12 @@ public final class CallBoundariesTest extends Checks {
         noSuch("both are one that there isn't", box -> x.meet(box, box), 2);
         due("both are one", x.meet(0, 0), NONE);
         due("never", x.meet(0, 1), NONE);
+    }
+
+    private static void heaviest() {
+        due("no boxes", told("bearer 1 1;").later(40, 0), NONE);
+        due("one of them", told("box 1 0;").later(40, 0), 0);
+        due("no boxes are carried", told("bearer 1 1;").later(40, 1), 0);
     }
 
     private static void later() {
@@ -335,6 +394,25 @@ public final class CallBoundariesTest extends Checks {
         due("none", told("box 1 0;").toBear(NONE), NONE);
         dueThrow("no boxes", () -> new BoxBearers().toBear(0), NO_SUCH);
         due("no boxes need nobody", new BoxBearers().toBear(NONE), 0);
+    }
+
+    private static void crew() {
+        BoxBearers x = told(TRIO);
+        due("as bits", x.crew(1), 4);
+        due("none", told("box 99 0;bearer 40 1;").crew(0), NONE);
+        noSuch("box", box -> x.crew(box), 2);
+    }
+
+    private static void toSlander() {
+        BoxBearers x = told(TRIO);
+        due("none", x.toSlander(1), NONE);
+        noSuch("box", box -> x.toSlander(box), 2);
+    }
+
+    private static void toWait() {
+        BoxBearers x = told(TRIO);
+        due("none", x.toWait(1), NONE);
+        noSuch("box", box -> x.toWait(box), 2);
     }
 
     private static void way() {
@@ -382,6 +460,18 @@ public final class CallBoundariesTest extends Checks {
         due("no act, not refused", x.count(9) + statusOf(x), 0);
     }
 
+    private static void noneWeighed() {
+        BoxBearers x = told("box 5 0;box 6 0;talk 0;");
+        x.see(0, 0, 5);
+        x.see(1, 0, 6);
+        due("none", x.weighed(1), NONE);
+        due("how many", x.weighed(0), 0);
+        due("without", x.weighed(2), 1);
+        due("look next at none", x.look(0), NONE);
+        due("0", x.look(1), 0);
+        due("no boxes", new BoxBearers().weighed(1), NONE);
+    }
+
     private static void weighed() {
         BoxBearers x = told(TRIO);
         noSuch("what", what -> x.weighed(what), 3);
@@ -415,6 +505,15 @@ public final class CallBoundariesTest extends Checks {
         dueThrow("both are one under none", () -> x.game(2, 2, 1), ILLEGAL);
     }
 
+    private static void noGame() {
+        BoxBearers x = told(TRIO);
+        due("how many", x.game(0, 2, 0), NONE);
+        due("the first", x.game(0, 2, 1), NONE);
+        x.away(0);
+        due("both under none: how many", x.game(0, 2, 0), NONE);
+        due("both under none: the first", x.game(0, 2, 1), NONE);
+    }
+
     private static void years() {
         BoxBearers x = told(TRIO);
         noSuch("what", what -> x.years(1, 0, what), 3);
@@ -432,14 +531,55 @@ public final class CallBoundariesTest extends Checks {
         noSuch("what without bearers", what -> new BoxBearers().idle(what), 2);
     }
 
-    private static void oneTown() {
+    private static void strongest() {
+        BoxBearers x = told("box 1 0;bearer 20 1 under 0;bearer 19 2;talk 0;");
+        x.days(1);
+        x.away(0);
+        due("by might", x.idle(0), 1);
+        x.hand(1, 0);
+        due("of the idle ones", x.idle(0), 0);
+        due("the tallest of the idle ones", x.idle(1), 0);
+    }
+
+    private static void nearest() {
         BoxBearers x = told(TRIO);
-        noSuch("nearest", town -> x.nearest(town), 3);
-        noSuch("onRoutes", town -> x.onRoutes(town), 3);
-        noSuch("reach", town -> x.reach(town), 3);
-        BoxBearers y = told("towns 8;");
-        noSuch("of 8", town -> y.reach(town), 8);
-        due("the 8th", y.reach(7), 128);
+        due("none", told("box 1 0;").nearest(1), NONE);
+        noSuch("town", town -> x.nearest(town), 3);
+        due("the last town", x.nearest(2), 1);
+    }
+
+    private static void alone() {
+        BoxBearers x = told(TRIO);
+        due("as bits", x.alone(0), 4);
+        noSuch("box", box -> x.alone(box), 2);
+    }
+
+    private static void weariest() {
+        BoxBearers x = told(TRIO);
+        due("no bearers", told("box 1 0;").weariest(40), NONE);
+        illegal("days", days -> x.weariest(days), 0, 40);
+        illegal("days without bearers", days -> new BoxBearers().weariest(days), 0, 40);
+    }
+
+    private static void onRoutes() {
+        BoxBearers x = told(TRIO);
+        due("as bits", x.onRoutes(2), 2);
+        noSuch("town", town -> x.onRoutes(town), 3);
+    }
+
+    private static void reach() {
+        BoxBearers x = told("towns 8;");
+        due("as bits", x.reach(7), 128);
+        noSuch("town", town -> x.reach(town), 8);
+        BoxBearers y = told("towns 2;");
+        noSuch("of 2", town -> y.reach(town), 2);
+    }
+
+    private static void total() {
+        BoxBearers x = told(TRIO);
+        due("0", x.total(0), 50);
+        illegal("days", days -> x.total(days), 0, 40);
+        illegal("days without boxes", days -> new BoxBearers().total(days), 0, 40);
     }
 
     private static void ahead() {
@@ -515,9 +655,24 @@ public final class CallBoundariesTest extends Checks {
         z.restore();
         due("all 40 ACTS", z.count(9), 40);
         for (int left = 39; left >= 0; left--) {
-            z.undo();
+            due("left", z.undo(), left);
+            due("undone to what it was", z.box(0, 0), 1 + left);
         }
-        due("undone to what it was at first", z.box(0, 0), 1);
+    }
+
+    private static void seenInTheImage() {
+        BoxBearers x = told("box 20 0;box 40 0;talk 1;falls 0;");
+        x.see(1, 2, 52);
+        x.see(1, 0, 50);
+        x.image();
+        x.forget();
+        x.see(0, 1, 31);
+        x.see(0, 0, 30);
+        x.see(0, 0, 30);
+        due("of box 0", x.weighed(1), 30);
+        x.restore();
+        due("of box 1 again", x.weighed(1), 150);
+        due("how much", x.count(10), 2);
     }
 
     private static void firstPromises() {
@@ -527,10 +682,13 @@ public final class CallBoundariesTest extends Checks {
         sentence("how many it has; NONE, and none come, if it would have more than 700.", CallBoundariesTest::feed);
         sentence("Twenty bytes come behind the tape, of each number the highest first", CallBoundariesTest::feedSigns);
         sentence("The tape's first n bytes (it is empty then) are a LAND, all anew", CallBoundariesTest::landAnew);
+        sentence("are a LAND, all anew", CallBoundariesTest::littleBehindMuch);
         sentence("0, or the FAULT (all stays). ACTS, what is SEEN, the image are gone (STATUS stays).",
             CallBoundariesTest::landWithFault);
         sentence("IllegalArgumentException: the tape has not so many, n below 0 (nothing changes).", CallBoundariesTest::landThrows);
         sentence("The place of the latest land()'s FAULT; NONE without.", CallBoundariesTest::faultPlace);
+        sentence("0 TOWNS, 1 ROADS, 2 BOXES, 3 BEARERS, 4 the DAY, 5 BOXES that are BORNE, 6 IDLE (bits), 7 WEIGHT of all, "
+            + "8 PAIRS, 9 ACTS that are kept, 10 SEEN, 11 bytes of the tape", CallBoundariesTest::fullCounts);
         sentence("12 to 14 STATUS 0 to 2. NoSuchElementException: another what.", CallBoundariesTest::count);
         sentence("6 NEEDED (bits). NoSuchElementException: no such BOX (as everywhere), what.", CallBoundariesTest::box);
         sentence("5 LOAD. NoSuchElementException: no such BEARER (as everywhere), what.", CallBoundariesTest::bearer);
@@ -546,8 +704,10 @@ public final class CallBoundariesTest extends Checks {
             CallBoundariesTest::then);
         sentence("under which BOX (1; NONE). NoSuchElementException: also another what. IllegalArgumentException (behind that): "
             + "not 0 to 40.", CallBoundariesTest::who);
-        sentence("no such BOX (as everywhere)", CallBoundariesTest::oneBox);
+        sentence("FALLEN; NONE: none.", CallBoundariesTest::fallen);
+        sentence("RESTS; NONE: none.", CallBoundariesTest::rests);
         sentence("MEET; NONE: none, both are one.", CallBoundariesTest::meet);
+        sentence("HEAVIEST (what 0; NONE: no BOXES)", CallBoundariesTest::heaviest);
         sentence("CARRIED (1). NoSuchElementException: another what. IllegalArgumentException (behind that): not 0 to 40.",
             CallBoundariesTest::later);
         sentence("NoSuchElementException: no such TOWN (as everywhere). IllegalArgumentException (behind that): not 0 to 40.",
@@ -557,22 +717,34 @@ public final class CallBoundariesTest extends Checks {
     }
 
     private static void lastPromises() {
+        sentence("A CREW, as bits; NONE: none.", CallBoundariesTest::crew);
+        sentence("TO SLANDER; NONE: none.", CallBoundariesTest::toSlander);
+        sentence("TO WAIT; NONE: none.", CallBoundariesTest::toWait);
         sentence("STEEPEST (2; 0 from a TOWN to itself, as the others); NONE: none. NoSuchElementException: also another what.",
             CallBoundariesTest::way);
         sentence("SEEN: how much is. NONE (STATUS 2): there are 8, not 0 to 12, not 1 to 99. NoSuchElementException (ahead): "
             + "no such BOX.", CallBoundariesTest::see);
         sentence("All that is SEEN is forgotten.", CallBoundariesTest::forget);
+        sentence("WEIGHED: how many (what 0), the first (1; NONE: none)", CallBoundariesTest::noneWeighed);
         sentence("whether without (2). NoSuchElementException: another what.", CallBoundariesTest::weighed);
         sentence("how many (1; 0: none). NoSuchElementException: another what.", CallBoundariesTest::look);
         sentence("RAIN. IllegalArgumentException (behind NoSuchElementException): days, tenths.", CallBoundariesTest::rain);
         sentence("NoSuchElementException: also another what. IllegalArgumentException (behind that): both are one.",
             CallBoundariesTest::game);
+        sentence("NONE for both, if they aren't under one BOX.", CallBoundariesTest::noGame);
         sentence("how many BORNE (2). NoSuchElementException: another what. IllegalArgumentException (behind that): n.",
             CallBoundariesTest::years);
         sentence("TALLEST (1); NONE: none. NoSuchElementException: another what.", CallBoundariesTest::idle);
-        sentence("no such TOWN (as everywhere)", CallBoundariesTest::oneTown);
+        sentence("STRONGEST of the IDLE ones by MIGHT (what 0)", CallBoundariesTest::strongest);
+        sentence("NEAREST; NONE: none.", CallBoundariesTest::nearest);
         sentence("AHEAD; NONE: it isn't on its ROUTE.", CallBoundariesTest::ahead);
+        sentence("ALONE, as bits.", CallBoundariesTest::alone);
+        sentence("WEARIEST; NONE: no BEARERS. IllegalArgumentException: not 0 to 40.", CallBoundariesTest::weariest);
+        sentence("ON ROUTES, as bits.", CallBoundariesTest::onRoutes);
+        sentence("REACH, as bits.", CallBoundariesTest::reach);
+        sentence("TOTAL. IllegalArgumentException: not 0 to 40.", CallBoundariesTest::total);
         sentence("ACTS and what is SEEN are kept as an image, in place of another one.", CallBoundariesTest::image);
+        sentence("what is SEEN are kept as an image", CallBoundariesTest::seenInTheImage);
         sentence("They are as the image again: true. False: there is none.", CallBoundariesTest::restore);
     }
 

@@ -116,6 +116,47 @@ class Checks {
         return picture;
     }
 
+    /** What it answers to every question, of few boxes, bearers and towns. */
+    static String answersOf(BoxBearers x) {
+        StringBuilder all = new StringBuilder();
+        for (int what = 0; what < 12; what++) {
+            all.append(x.count(what)).append(' ');
+        }
+        for (int what = 0; what < 3; what++) {
+            all.append(x.weighed(what)).append(' ').append(x.years(7, 40, what)).append(' ');
+        }
+        for (int what = 0; what < 2; what++) {
+            all.append(x.look(what)).append(' ').append(x.idle(what)).append(' ').append(x.later(9, what)).append(' ');
+        }
+        all.append(x.toBear(NONE)).append(' ').append(x.weariest(9)).append(' ').append(x.total(9)).append(" boxes ");
+        for (int box = 0; box < x.count(2); box++) {
+            addBox(all, x, box);
+        }
+        for (int bearer = 0; bearer < x.count(3); bearer++) {
+            for (int what = 0; what < 6; what++) {
+                all.append(x.bearer(bearer, what)).append(' ');
+            }
+            all.append(x.who(bearer, 9, 0)).append(' ').append(x.who(bearer, 9, 1)).append(" next ");
+        }
+        for (int town = 0; town < x.count(0); town++) {
+            all.append(x.calls(town, 9)).append(' ').append(x.nearest(town)).append(' ').append(x.onRoutes(town)).append(' ');
+            all.append(x.reach(town)).append(' ').append(x.way(0, town, 0)).append(' ').append(x.way(town, 0, 1)).append(" next ");
+        }
+        return all.toString();
+    }
+
+    private static void addBox(StringBuilder all, BoxBearers x, int box) {
+        for (int what = 0; what < 7; what++) {
+            all.append(x.box(box, what)).append(' ');
+        }
+        for (int what = 0; what < 4; what++) {
+            all.append(x.then(box, 9, what)).append(' ');
+        }
+        all.append(x.fallen(box)).append(' ').append(x.rests(box)).append(' ').append(x.toBear(box)).append(' ');
+        all.append(x.crew(box)).append(' ').append(x.toSlander(box)).append(' ').append(x.toWait(box)).append(' ');
+        all.append(x.rain(box, 3, 5)).append(' ').append(x.alone(box)).append(" next ");
+    }
+
     /** A call that is refused: its answer, one more of a STATUS (0 to 2, or NONE), and nothing else is changed. */
     static void refused(String what, BoxBearers x, Call call, int want, int status) {
         int before = pictureOf(x);

@@ -222,6 +222,20 @@ public final class DayBoundariesTest extends Checks {
         due("very few", told(TRIO).days(Integer.MIN_VALUE), NONE);
     }
 
+    private static void handsPut() {
+        BoxBearers x = told(TRIO);
+        x.hand(2, 0);
+        due("with the others", x.box(0, 2), 7);
+        x.hand(0, 1);
+        due("no longer under the one", x.box(0, 2), 6);
+        due("under the other", x.box(1, 2), 1);
+        x.away(1);
+        x.away(2);
+        due("nobody left", x.box(0, 2), 0);
+        due("idle", x.count(6), 6);
+        due("acts", x.count(9), 4);
+    }
+
     private static void changeSides() {
         BoxBearers x = told(TRIO);
         x.change(0, 2);
@@ -288,6 +302,27 @@ public final class DayBoundariesTest extends Checks {
         }
     }
 
+    private static void allOfMany() {
+        StringBuilder text = new StringBuilder("towns 8;");
+        for (int box = 0; box < 6; box++) {
+            text.append("box ").append(10 + box).append(" 0 1 2 3 4 ").append(box).append(';');
+        }
+        for (int bearer = 0; bearer < 8; bearer++) {
+            text.append("bearer ").append(30 + bearer).append(" 1 under ").append(bearer % 6).append(';');
+        }
+        BoxBearers x = told(text.append("talk town*2;falls 0;").toString());
+        x.days(5);
+        x.away(7);
+        x.days(1);
+        int before = pictureOf(x);
+        x.days(3);
+        x.undo();
+        due("all as it was", pictureOf(x), before);
+        // 15, 15, 17, 21, 27, and too heavy then: 35 and 43 in town 4.
+        due("the last box", x.box(5, 0) * 10 + x.box(5, 1), 434);
+        due("the last bearer", x.bearer(7, 2) * 10 + x.bearer(7, 3), -7);
+    }
+
     private static void slanderThatChangesNothing() {
         BoxBearers x = told("box 1 0;box 99 0;");
         x.slander(0, 5);
@@ -321,10 +356,12 @@ public final class DayBoundariesTest extends Checks {
         sentence("The DAY is one more then.", DayBoundariesTest::dayIsMore);
         sentence("ACTS (at most 40 are kept, the latest ones)", DayBoundariesTest::fortyActs);
         sentence("DAYS go by (1 to 20)", DayBoundariesTest::daysOfAnAct);
+        sentence("a BEARER puts a HAND under a BOX; a BEARER takes the HAND AWAY", DayBoundariesTest::handsPut);
         sentence("two BEARERS CHANGE (each is where the other one was)", DayBoundariesTest::changeSides);
         sentence("SLANDER: WEIGHT of a BOX is 1 to 30 less (at least 1)", DayBoundariesTest::lessBySlander);
         sentence("PRAISE: 1 to 30 more (99 at most)", DayBoundariesTest::moreByPraise);
         sentence("They are UNDONE, the last one first.", DayBoundariesTest::lastFirst);
+        sentence("They are UNDONE", DayBoundariesTest::allOfMany);
         sentence("(at least 1); PRAISE", DayBoundariesTest::slanderThatChangesNothing);
         end("DayBoundariesTest", args);
     }

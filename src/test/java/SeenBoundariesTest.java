@@ -139,6 +139,26 @@ public final class SeenBoundariesTest extends Checks {
         due("nobody under it", told("box 1 0;bearer 40 1;").rain(0, 5, 0), 0);
     }
 
+    private static void power() {
+        // Borne behind the days, if each of them is dry.
+        int[][] rows = {{18, 1, 3, 7}, {16, 2, 3, 49}, {14, 3, 3, 343}, {12, 4, 3, 2401}, {10, 5, 3, 16807}, {10, 5, 0, 100000},
+            {10, 5, 10, 0}, {10, 5, 9, 1}, {10, 5, 1, 59049}};
+        for (int[] row : rows) {
+            BoxBearers x = told("box " + row[0] + " 0;bearer 20 1 under 0;" + STEADY);
+            due("of weight " + row[0] + " in " + row[1] + " by " + row[2], x.rain(0, row[1], row[2]), row[3]);
+        }
+    }
+
+    private static void eachChoice() {
+        BoxBearers x = told("box 9 0;bearer 9 1 under 0;bearer 9 1 under 0;bearer 9 1;" + STEADY);
+        due("nothing is taken away by asking", x.game(0, 1, 0), 3);
+        due("both are under it", x.box(0, 2), 3);
+        BoxBearers y = told("box 9 0;bearer 30 1 under 0;bearer 30 1 under 0;" + STEADY);
+        y.days(9);
+        due("1 and 1", y.game(0, 1, 1), 11);
+        due("0 and 0", x.game(0, 1, 1), 0);
+    }
+
     private static void gains() {
         String two = "bearer 40 1 under 0;bearer 40 1 under 0;" + STEADY;
         BoxBearers both = told("box 60 0;" + two);
@@ -208,11 +228,14 @@ public final class SeenBoundariesTest extends Checks {
     }
 
     /** What is drawn by these seeds is worked out by hand; behind it a day goes by. */
-    private static void drawn() {
+    private static void drawnHands() {
         years(TRIO, 47, 1, 0, 52, 2);
         years(TRIO, 0, 1, 0, 50, 1);
         years(TRIO, 23, 1, 0, 48, 0);
         years(TRIO, 10, 1, 0, 50, 1);
+    }
+
+    private static void drawnWeights() {
         years(TRIO, 1, 1, 0, 46, 1);
         years(TRIO, 2, 1, 0, 40, 1);
         years(TRIO, 30, 1, 0, 51, 0);
@@ -274,6 +297,8 @@ public final class SeenBoundariesTest extends Checks {
             + "how many; none without any.", SeenBoundariesTest::look);
         sentence("RAIN: on each of so many DAYS (1 to 5) it rains with so many tenths (0 to 10)", SeenBoundariesTest::rainDays);
         sentence("ahead of the DAY all BEARERS under a BOX are 1 more TIRED (9 at most)", SeenBoundariesTest::rainTires);
+        sentence("how likely a BOX is BORNE behind them: as so many of 10 to the power of these DAYS.", SeenBoundariesTest::power);
+        sentence("A GAME of two BEARERS under one BOX: each takes the HAND AWAY now, or not (1, 0)", SeenBoundariesTest::eachChoice);
         sentence("each gains 4, if that BOX is BORNE then (just now), less 1 for each that one is TIRED, if one stays.",
             SeenBoundariesTest::gains);
         sentence("A couple RESTS, if neither gains more by the other choice: how many; the first (10 by the first one's and "
@@ -281,7 +306,10 @@ public final class SeenBoundariesTest extends Checks {
         sentence("none, if they aren't under one BOX.", SeenBoundariesTest::notUnderOne);
         sentence("YEARS by a seed: n DAYS (0 to 40) from now on", SeenBoundariesTest::yearsOfDays);
         sentence("ahead of each a DRAW of 6: 0 a DRAW of BEARERS puts a HAND under a DRAW of BOXES, 1 a DRAW of BEARERS takes it "
-            + "AWAY, if one has it there", SeenBoundariesTest::drawn);
+            + "AWAY, if one has it there", SeenBoundariesTest::drawnHands);
+        sentence("2 SLANDER of a DRAW of BOXES by a DRAW of 10 and 1, 3 PRAISE of a DRAW of BOXES by a DRAW of 10 and 1: how often "
+            + "a BOX was let FALL in these DAYS, all together; WEIGHT of all at the end; how many are BORNE.",
+            SeenBoundariesTest::drawnWeights);
         sentence("A seed becomes itself times 1103515245 and 12345 (an int that wraps); a DRAW of n is its bits 16 to 30 MOD n then.",
             SeenBoundariesTest::seeds);
         sentence("(Without BOXES, or without BEARERS, the DRAWS of 6 alone.)", SeenBoundariesTest::drawsAlone);

@@ -39,7 +39,8 @@ public final class SpareBoundariesTest extends Checks {
         BoxBearers x = told("towns 6;road 0 1 9;road 0 2 3;road 2 1 3;road 4 1 6;box 1 3;box 1 0;box 1 4;box 1 1;");
         due("there itself", x.nearest(3), 0);
         due("fewest stairs of like ones the least", x.nearest(1), 3);
-        due("by stairs, not by roads", x.nearest(2), 1);
+        due("of like ones by two roads", x.nearest(2), 1);
+        due("by stairs, not by roads", told("road 0 1 9;road 0 2 4;road 2 3 4;box 1 1;box 1 3;").nearest(0), 1);
         due("none", x.nearest(5), NONE);
         due("of like ones the least", told("road 0 1 4;road 0 2 4;box 1 2;box 1 1;").nearest(0), 0);
         due("no boxes", told("").nearest(0), NONE);

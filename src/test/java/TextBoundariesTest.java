@@ -115,6 +115,29 @@ public final class TextBoundariesTest extends Checks {
         faultOf("talk weight_;", 1, 11);
     }
 
+    /** A word is no other word because it is like one but for a letter. */
+    private static void everyLetter() {
+        String[] starts = {"towns 3;", "road 0 1 1;", "box 1 0;", "bearer 1 1;", "talk 1;", "falls 1;"};
+        for (String start : starts) {
+            for (int i = 0; i < start.indexOf(' '); i++) {
+                faultOf(start.substring(0, i) + 'q' + start.substring(i + 1), 1, 0);
+            }
+        }
+        for (int i = 0; i < 5; i++) {
+            faultOf("box 1 0;bearer 1 1 " + "under".substring(0, i) + 'q' + "under".substring(i + 1) + " 0;", 1, 19);
+        }
+        for (String value : new String[] {"weight", "hands", "might", "lean", "borne", "town", "day", "not"}) {
+            for (int i = 0; i < value.length(); i++) {
+                faultOf("talk " + value.substring(0, i) + 'q' + value.substring(i + 1) + ";", 3, 5);
+            }
+        }
+        for (String join : new String[] {"or", "and"}) {
+            for (int i = 0; i < join.length(); i++) {
+                faultOf("talk 1 " + join.substring(0, i) + 'q' + join.substring(i + 1) + " 1;", 1, 7);
+            }
+        }
+    }
+
     private static void numbers() {
         due("4 digits", told("towns 0008;").count(0), 8);
         due("1 digit", told("towns 8;").count(0), 8);
@@ -354,6 +377,58 @@ public final class TextBoundariesTest extends Checks {
         faultOf(roads(14) + "towns 8;", 4, 8 + 14 * 11);
     }
 
+    private static void cantStand() {
+        String[] lines = {"road 0 1 1;", "box 1 0;", "bearer 1 1 under 0;", "talk 1+weight;", "falls (1)<2;"};
+        for (String line : lines) {
+            faultOf("box 1 0;" + line.substring(0, line.length() - 1) + "#;", 1, 7 + line.length());
+            for (String token : new String[] {"#", "1", "(", "-", "x"}) {
+                faultOf("box 1 0;" + token + ' ' + line, 1, 8);
+            }
+        }
+        faultOf("towns 3#;", 1, 7);
+        faultOf("towns -3;", 1, 6);
+        faultOf("road 0-1 1;", 1, 6);
+        faultOf("road 0 (1) 1;", 1, 7);
+        faultOf("box 1 0,1;", 1, 7);
+        faultOf("bearer 1.5 1;", 1, 8);
+        faultOf("bearer 1 1 0;", 1, 11);
+        faultOf("talk 1 ! 2;", 1, 7);
+        faultOf("talk 1 + + 2;", 1, 9);
+        faultOf("talk * 2;", 1, 5);
+        faultOf("talk < 2;", 1, 5);
+        faultOf("talk = 2;", 1, 5);
+        faultOf("talk ) 2;", 1, 5);
+        faultOf("talk weight 2;", 1, 12);
+        faultOf("talk 2 weight;", 1, 7);
+    }
+
+    private static void firstTokens() {
+        faultOf(roads(14) + " \n road 8 8 99;", 2, 8 + 14 * 11 + 3);
+        faultOf("box 1 0;".repeat(6) + "  box 0 9;", 2, 50);
+        faultOf("bearer 1 1;".repeat(8) + "  bearer 0 0 under 9;", 2, 90);
+        noFault(roads(14) + "box 1 0;".repeat(6) + "bearer 1 1;".repeat(8));
+    }
+
+    private static void underOrNot() {
+        noFault("box 1 0;bearer 1 1;bearer 1 1 under 0;");
+        faultOf("box 1 0;bearer 1 1 0;", 1, 19);
+        faultOf("box 1 0;bearer 1 1 under;", 1, 24);
+        faultOf("box 1 0;bearer 1 1 under under;", 1, 25);
+        faultOf("box 1 0;bearer 1 1 under 0 under 0;", 1, 27);
+        faultOf("box 1 0;bearer 1 under 0;", 1, 17);
+    }
+
+    private static void whereAndWhen() {
+        due("town 0", told("box 50 0;talk town;").then(0, 1, 0), 50);
+        due("town 7", told("towns 8;box 50 7;talk town;").then(0, 1, 0), 57);
+        due("day 0", told("box 50 0;talk day;").then(0, 1, 0), 50);
+        due("day 1", told("box 50 0;talk day;").then(0, 2, 0), 51);
+        BoxBearers x = told("box 50 0;talk day=20;falls day=22;");
+        x.days(20);
+        due("day 20", x.then(0, 1, 0), 51);
+        due("day 22", x.fallen(0), 3);
+    }
+
     private static void endsTooSoon() {
         faultOf("towns", 1, 5);
         faultOf("towns 3", 1, 7);
@@ -512,6 +587,7 @@ public final class TextBoundariesTest extends Checks {
         sentence("perhaps a BOX under which one has a hand at first", TextBoundariesTest::handAtFirst);
         sentence("A TEXT of at most 700 bytes tells it.", TextBoundariesTest::longTexts);
         sentence("words (a .. z, the longest row)", TextBoundariesTest::words);
+        sentence("In quotes is what stands there", TextBoundariesTest::everyLetter);
         sentence("NUMBERS (1 to 4 digits)", TextBoundariesTest::numbers);
         sentence("signs ; ( ) + - * / < =", TextBoundariesTest::signs);
         sentence("blanks (32, 10) between them count for nothing", TextBoundariesTest::blanks);
@@ -535,6 +611,10 @@ public final class TextBoundariesTest extends Checks {
         sentence("FAULTS, the first along the text", TextBoundariesTest::firstFault);
         sentence("at a TOKEN's first byte", TextBoundariesTest::firstByte);
         sentence("of one TOKEN the least", TextBoundariesTest::leastOfOne);
+        sentence("1 a TOKEN that can't stand there, or is none", TextBoundariesTest::cantStand);
+        sentence("the first TOKEN of the 15th ROAD, the 7th BOX, the 9th BEARER", TextBoundariesTest::firstTokens);
+        sentence("'bearer' STRENGTH HEIGHT ['under' BOX]", TextBoundariesTest::underOrNot);
+        sentence("'town' (where it is), 'day'", TextBoundariesTest::whereAndWhen);
         sentence("(the text's length where it ends too soon)", TextBoundariesTest::endsTooSoon);
         sentence("2 one that can, but is too much: a NUMBER of 5 digits or more", TextBoundariesTest::fiveDigits);
         sentence("or (not in an EXPR) not as told", TextBoundariesTest::notInAnExpr);

@@ -351,7 +351,7 @@ public final class BoxBearers {
         if (bearer == other) {
             throw new IllegalArgumentException("both are one");
         }
-        if (now.under[bearer] == NONE || now.under[bearer] != now.under[other]) {
+        if (!land.hasBox(now.under[bearer]) || now.under[bearer] != now.under[other]) {
             return NONE;
         }
         int many = 0;
@@ -405,7 +405,8 @@ public final class BoxBearers {
         int best = NONE;
         int least = NONE;
         for (int box = 0; box < land.boxes; box++) {
-            int stairs = far[now.townOf(box)];
+            int place = now.townOf(box);
+            int stairs = land.hasTown(place) ? far[place] : NONE;
             if (stairs != NONE && (best == NONE || stairs < least)) {
                 best = box;
                 least = stairs;
@@ -513,7 +514,7 @@ public final class BoxBearers {
     }
 
     private void checkBox(int box) {
-        if (box < 0 || box >= land.boxes) {
+        if (!land.hasBox(box)) {
             throw new NoSuchElementException("no such box");
         }
     }
@@ -525,7 +526,7 @@ public final class BoxBearers {
     }
 
     private void checkTown(int town) {
-        if (town < 0 || town >= land.towns) {
+        if (!land.hasTown(town)) {
             throw new NoSuchElementException("no such town");
         }
     }
@@ -658,6 +659,14 @@ public final class BoxBearers {
             falls.copyFrom(other.falls);
         }
 
+        boolean hasTown(int town) {
+            return town >= 0 && town < towns;
+        }
+
+        boolean hasBox(int box) {
+            return box >= 0 && box < boxes;
+        }
+
         void addRoad(int from, int to, int steps) {
             if (roads < MOST_ROADS) {
                 roadFrom[roads] = from;
@@ -686,7 +695,8 @@ public final class BoxBearers {
         }
 
         int townAt(int box, int place) {
-            return routes[box * MOST_STOPS + place];
+            int at = box * MOST_STOPS + place;
+            return at >= 0 && at < routes.length ? routes[at] : 0;
         }
 
         int nextPlace(int box, int place) {
@@ -730,7 +740,7 @@ public final class BoxBearers {
         }
 
         private void goAlong(int road, int from, int to, int what, int[] far) {
-            if (far[from] == NONE) {
+            if (!hasTown(from) || !hasTown(to) || far[from] == NONE) {
                 return;
             }
             int length = far[from] + (what == 0 ? stairs[road] : 1);
@@ -762,7 +772,7 @@ public final class BoxBearers {
         static final int MINUS = -14;
         static final int TIMES = -15;
         static final int OVER = -16;
-        // Seven expressions within one another leave at most five numbers waiting each.
+        // Six expressions within one another leave at most five numbers waiting each.
         private static final int MOST_WAITING = 48;
 
         boolean told = false;
@@ -1282,7 +1292,7 @@ public final class BoxBearers {
 
         int loadOf(int bearer) {
             int box = under[bearer];
-            if (box == NONE) {
+            if (!land.hasBox(box)) {
                 return 0;
             }
             int hands = Integer.bitCount(bitsUnder(box));
@@ -1617,18 +1627,24 @@ public final class BoxBearers {
             Arrays.fill(marks, 0);
             for (int weight = 1; weight <= MOST_WEIGHT; weight++) {
                 if (fits[box * WEIGHTS + weight] == 1) {
-                    marks[weightLater(box, weight)] = 1;
+                    mark(weightLater(box, weight));
                 }
             }
             // By another weight of another box this one goes on as it is.
             if (many > fitting[box]) {
-                marks[weightLater(box, now.weight[box])] = 1;
+                mark(weightLater(box, now.weight[box]));
             }
             int much = 0;
             for (int weight = 1; weight <= MOST_WEIGHT; weight++) {
                 much += marks[weight];
             }
             return much;
+        }
+
+        private void mark(int weight) {
+            if (weight > 0 && weight < WEIGHTS) {
+                marks[weight] = 1;
+            }
         }
 
         private int weightLater(int box, int weight) {
